@@ -1,3 +1,4 @@
+import java.util.Arrays;
 import java.util.NoSuchElementException;
 
 /**
@@ -82,7 +83,7 @@ public final class LandRun {
                 && isWithin(pace, 1, MOST_PACE) && isWithin(age, 0, MOST_AGE) && tapeTellsQuarters();
         int number = NONE;
         if (open && fits) {
-            number = people.welcome(new Person(from, hid, pace, age, tape));
+            number = people.welcome(new Person(from, hid, pace, age, tape.copied(MOST_KNOWN)));
         }
         tape.size = 0;
         return number;
@@ -300,6 +301,10 @@ public final class LandRun {
             }
         }
 
+        int[] copied(int limit) {
+            return Arrays.copyOf(bytes, Math.max(0, Math.min(size, limit)));
+        }
+
         /** A long has a bit for each number, since a limit is never above 64. */
         boolean tellsEachOnce(int limit) {
             long told = 0;
@@ -367,14 +372,12 @@ public final class LandRun {
         int take = NONE;
         int gain = NONE;
 
-        Person(int from, boolean hid, int pace, int age, Tape tape) {
+        Person(int from, boolean hid, int pace, int age, int[] known) {
             this.hid = hid;
             this.pace = pace;
             this.age = age;
-            int length = Math.max(0, Math.min(tape.size, MOST_KNOWN));
-            known = new int[length];
-            pence = new int[length];
-            tape.copyInto(known);
+            this.known = known;
+            pence = new int[known.length];
             row = hid ? Math.floorDiv(from, SIDE) : from;
             column = hid ? Math.floorMod(from, SIDE) : NONE;
         }
@@ -967,7 +970,7 @@ public final class LandRun {
             for (int k = claimCount - 1; k >= 0; k--) {
                 Claim claim = claimAt(k);
                 if (claim != null && claim.quarter == q) {
-                    if (claim.by == by) {
+                    if (claim.by.number == by.number) {
                         return NONE;
                     }
                     firstDay = claim.day;
@@ -1026,7 +1029,7 @@ public final class LandRun {
         boolean isAheadOfAll(Claim claim) {
             for (int i = 0; i < gathered; i++) {
                 Claim other = lawfulAt(i);
-                if (other != null && other != claim && !claim.isAheadOf(other)) {
+                if (other != null && other.number != claim.number && !claim.isAheadOf(other)) {
                     return false;
                 }
             }
@@ -1036,7 +1039,7 @@ public final class LandRun {
         boolean isBehindAny(Claim claim) {
             for (int i = 0; i < gathered; i++) {
                 Claim other = lawfulAt(i);
-                if (other != null && other != claim && other.isAheadOf(claim)) {
+                if (other != null && other.number != claim.number && other.isAheadOf(claim)) {
                     return true;
                 }
             }

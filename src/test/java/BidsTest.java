@@ -124,5 +124,13 @@ public final class BidsTest {
         pence[11] = 254;
         Check.bid(x, 0, pence);
         sold(x, 2040, 53, 52, 54, 55, 56, 57, 58, 59);
+        // the greatest of twelve known quarters can be had too, by the first and by the last bidder
+        int[] one = new int[12];
+        one[0] = 9;
+        Check.bid(x, 0, one);
+        sold(x, 1794, 63, 52, 53, 54, 55, 56, 57, 58);
+        Check.bid(x, 0, new int[12]);
+        Check.bid(x, 7, one);
+        sold(x, 1539, -1, 52, 53, 54, 55, 56, 57, 63);
     }
 }

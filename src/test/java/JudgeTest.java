@@ -10,6 +10,7 @@ public final class JudgeTest {
         sureBySpans();
         endMustBeAhead();
         doubtAmongThoseWhoAreNotBehind();
+        onlyOneBehind();
         doubtFiled();
         doubtYoung();
         asOfADay();
@@ -83,6 +84,23 @@ public final class JudgeTest {
         judged(x, 5, 0, 2, 1);
         Check.law(x, "doubt nobody;");
         judged(x, 5, 0, LandRun.NONE, 1);
+    }
+
+    private static void onlyOneBehind() {
+        LandRun x = threePeople();
+        x.file(0, 5);
+        x.file(1, 5);
+        x.file(2, 5);
+        x.witness(0, 10, 20);
+        x.witness(1, 21, 40);
+        x.witness(2, 15, 30);
+        // claim 1 is the youngest one's, and begins behind the end of claim 0 alone
+        Check.law(x, "doubt young;");
+        judged(x, 5, 0, 2, 1);
+        Check.law(x, "doubt young;hidden barred;");
+        judged(x, 5, 0, 0, 0);
+        Check.law(x, "doubt young;age 50;");
+        judged(x, 5, 0, 0, 0);
     }
 
     private static void doubtFiled() {

@@ -161,9 +161,10 @@ public final class LawTest {
 
     private static void whatIsNotToldFallsBack() {
         LandRun x = new LandRun();
-        Check.hidden(x, 0, 1, 20);
+        Check.hidden(x, 0, 1, 0);
         x.file(0, 0);
-        String[] against = {"age 21;", "hidden barred;", "proof 1;"};
+        CHECK.due("lawful without a law", x.span(0, 0, 3), 1);
+        String[] against = {"age 1;", "hidden barred;", "proof 1;"};
         for (String text : against) {
             Check.law(x, text);
             CHECK.due("lawful by " + text, x.span(0, 0, 3), 0);
