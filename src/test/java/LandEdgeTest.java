@@ -130,8 +130,10 @@ public final class LandEdgeTest {
         CHECK.due("nobody of " + refused, x.count(1), 0);
         CHECK.due("row 0", Check.lineman(x, 0, 1, 1, 7), 0);
         CHECK.due("row 7", Check.lineman(x, 7, 1, 1, 56), 1);
-        CHECK.due("on the line", x.runner(0, 0), LandRun.NONE);
-        CHECK.due("on the line", x.runner(1, 0), LandRun.NONE);
+        for (int p = 0; p < 2; p++) {
+            CHECK.due("on the line", x.runner(p, 0), LandRun.NONE);
+            CHECK.due("did not hide", x.runner(p, 5), 0);
+        }
         x.run(1);
         CHECK.due("beside QUARTER 0", x.runner(0, 0), 0);
         CHECK.due("beside QUARTER 56", x.runner(1, 0), 56);
